@@ -296,12 +296,12 @@ public final class OrderedDesk {
             return old;
         }
 
-        /** How many went: every key leaves 0 when divided by 1. */
+        /** All of them go, as every key leaves 0 when divided by 1: how many. */
         int dropPlaces(int begin, int end) {
             return dropLeaving(1, 0, begin, end);
         }
 
-        /** How many went of those from begin up to before end; -1 for a step that can't divide. */
+        /** As sweep, for the entries at the places from begin up to before end. */
         int dropLeaving(int step, int rest, int begin, int end) {
             if (step < 1) {
                 return -1;
@@ -323,8 +323,8 @@ public final class OrderedDesk {
 
     /** Which keys the view has; its ends are longs, so that a missing end is one no int reaches. */
     private static final class Range {
-        static final long BEFORE_ALL = Integer.MIN_VALUE - 1L;
-        static final long BEHIND_ALL = Integer.MAX_VALUE + 1L;
+        static final long BEFORE_ALL = -2147483649L;
+        static final long BEHIND_ALL = 2147483648L;
 
         private final long low;
         private final boolean lowIn;
